@@ -8,6 +8,7 @@ public final class MilesHall {
     private static final int MOST_MEMBERS = 10, MOST_LINES = 100, MOST_TERMS = 4, MOST_FLIGHTS = 8, MOST_ASKS = 30;
     private static final int MOST_OFFERS = 8, MOST_POINTS = 3000, MOST_BYTES = 132, MOST_WAITING = 16, MOST_PLACES = 16;
     private static final int ALL_MARKS = 4095, MOST_LEG = 9999, MOST_COINS = 9999, MOST_MILES = 99999, MOST_LIFE = 9999;
+    private static final int LAST_LAPSE = MOST_DAY + MOST_LIFE;
     private static final int MOST_CLASS = 3, MOST_KIND = 3, MOST_TIER = 3, MOST_POOL = 2, MOST_RATE = 999;
     private static final int PARTNERS = 4, SHEETS = 2, RULES = 3, MISSING = -1;
     private static final int MEMBER = 0, CHILD = 1, BEARER = 2, STAFF = 3;
@@ -171,7 +172,7 @@ public final class MilesHall {
         }
         ledger.goThrough(club, day, known);
         switch (what) {
-            case 0: return ledger.lapsing(member, day + 1, Integer.MAX_VALUE);
+            case 0: return ledger.lapsing(member, day + 1, LAST_LAPSE);
             case 1: return ledger.pointsOf(member, day / YEAR_DAYS);
             case 2: return ledger.tierOf(club, member, day);
             case 3: return ledger.lapsing(member, day + 1, day + club.rules[WARN]);
@@ -1362,56 +1363,69 @@ public final class MilesHall {
         private static final int NO_WAY = 1000000000;
         /** Coins weigh more than all takings (72) together, so that one number tells the better of two ways. */
         private static final int COIN = 128;
-        private static final int ROW = MOST_OFFERS + 1;
+        private static final int ROW = MOST_POINTS + 1;
 
-        /** By POINTS, then by OFFERS: the least with that OFFER and those behind it. */
-        final int[] least = new int[(MOST_POINTS + 1) * ROW];
+        /** A row an OFFER: the least weight of each number of POINTS with that OFFER and those behind it. */
+        final int[] least = new int[(MOST_OFFERS + 1) * ROW];
         final int[] rows = new int[MOST_OFFERS];
         int coins;
-        private int solved;
+        private int solved = -1;
 
         void forget() {
-            solved = 0;
+            solved = -1;
         }
 
         boolean isFound(Offers offers, int n) {
-            for (int points = solved; points <= n; points++) {
-                solve(offers, points);
+            if (n > solved) {
+                // Who asks for more and more is not to have it solved for each.
+                solved = solved < 0 ? n : MOST_POINTS;
+                solve(offers, solved);
             }
-            solved = Math.max(solved, n + 1);
-            int best = least[n * ROW];
-            if (best == NO_WAY) {
+            if (least[n] == NO_WAY) {
                 return false;
             }
-            coins = best / COIN;
+            coins = least[n] / COIN;
             trace(offers, n);
             return true;
         }
 
-        private void solve(Offers offers, int points) {
-            int at = points * ROW;
-            least[at + offers.size] = points == 0 ? 0 : NO_WAY;
+        private void solve(Offers offers, int most) {
+            int last = offers.size * ROW;
+            least[last] = 0;
+            for (int points = 1; points <= most; points++) {
+                least[last + points] = NO_WAY;
+            }
             for (int offer = offers.size - 1; offer >= 0; offer--) {
-                int best = NO_WAY;
-                for (int times = 0; times <= offers.times[offer]; times++) {
-                    best = Math.min(best, with(offers, offer, times, points));
+                System.arraycopy(least, (offer + 1) * ROW, least, offer * ROW, most + 1);
+                int left = offers.times[offer];
+                // Packs of 1, 2, 4 and the rest make up every number of takings.
+                for (int pack = 1; left > 0; pack *= 2) {
+                    int many = Math.min(pack, left);
+                    addPack(offer * ROW, most, many * offers.points[offer], many * weight(offers, offer));
+                    left -= many;
                 }
-                least[at + offer] = best;
             }
         }
 
-        /** What it weighs to take an OFFER so often, and then the best of those behind it. */
-        private int with(Offers offers, int offer, int times, int points) {
-            int rest = Math.max(0, points - times * offers.points[offer]);
-            int behind = least[rest * ROW + offer + 1];
-            return behind == NO_WAY ? NO_WAY : behind + times * (offers.coins[offer] * COIN + 1);
+        /** From the top down, so that a pack is taken once. */
+        private void addPack(int row, int most, int points, int weight) {
+            for (int n = most; n > 0; n--) {
+                int with = least[row + (n > points ? n - points : 0)] + weight;
+                if (with < least[row + n]) {
+                    least[row + n] = with;
+                }
+            }
+        }
+
+        private static int weight(Offers offers, int offer) {
+            return offers.coins[offer] * COIN + 1;
         }
 
         /** Of ways that weigh the same the one that takes each OFFER in turn more often. */
         private void trace(Offers offers, int n) {
             int points = n;
             for (int offer = 0; offer < offers.size; offer++) {
-                int best = least[points * ROW + offer];
+                int best = least[offer * ROW + points];
                 int times = offers.times[offer];
                 while (times > 0 && with(offers, offer, times, points) != best) {
                     times--;
@@ -1419,6 +1433,12 @@ public final class MilesHall {
                 rows[offer] = times;
                 points = Math.max(0, points - times * offers.points[offer]);
             }
+        }
+
+        /** What it weighs to take an OFFER so often, and then the best of those behind it. */
+        private int with(Offers offers, int offer, int times, int points) {
+            int rest = Math.max(0, points - times * offers.points[offer]);
+            return least[(offer + 1) * ROW + rest] + times * weight(offers, offer);
         }
     }
 }

@@ -93,10 +93,12 @@ public final class ImagesTest {
         due.is("still missing", x.mark(0, 0, 1), NOTHING);
         due.is("sheet(0, 16)", x.sheet(0, 16), 16);
         due.is("mark(0, 15, 3)", x.mark(0, 15, 3), 0);
+        due.is("mark(0, 0, 3)", x.mark(0, 0, 3), 0);
         due.is("sheet(0, -1) refused", x.sheet(0, -1), SIZE);
         due.is("and nothing changed", x.mark(0, 15, 3), 3);
         due.is("sheet(0, 16) anew", x.sheet(0, 16), 16);
         due.is("all 0", x.mark(0, 15, 3), 0);
+        due.is("all 0, the first", x.mark(0, 0, 3), 0);
         due.is("sheet(0, 0)", x.sheet(0, 0), 0);
         due.is("no place", x.mark(0, 0, 1), INDEX);
         due.is("the other is missing", x.mark(1, 0, 1), NOTHING);

@@ -318,6 +318,14 @@ public final class LinesTest {
         due.is("tier by none", x.stands(0, 1080, 800, 2), 0);
         x.withdraw(1);
         due.is("tier by the year ahead alone", x.stands(0, 719, 800, 2), 1);
+        for (int i = 0; i < 4; i++) {
+            x.days(100);
+        }
+        x.fly(0, 1079, 100, 0, 0);
+        x.fly(0, 1080, 300, 0, 0);
+        due.is("points of year 2", x.stands(0, 1079, 1200, 1), 100);
+        due.is("points of year 3", x.stands(0, 1200, 1200, 1), 300);
+        due.is("tier of year 3", x.stands(0, 1200, 1200, 2), 3);
     }
 
     private static void owes() {

@@ -160,5 +160,9 @@ public final class MembersTest {
         due.is("ring(0), the least behind", x.ring(0), NONE);
         x.marks(1, 2);
         due.is("ring(0), a chain anew", x.ring(0), 1 << 1 | 1 << 5 | 1 << 8);
+        x.marks(0, 2048);
+        x.marks(9, 2048 | 4);
+        due.is("ring(0) of the first", x.ring(0), 1 | 1 << 1 | 1 << 5 | 1 << 8 | 1 << 9);
+        due.is("only one", x.ring(1), NONE);
     }
 }

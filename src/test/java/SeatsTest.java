@@ -8,6 +8,7 @@ public final class SeatsTest {
         asks();
         settle();
         ranks();
+        pools();
         prices();
         free();
         fullOfLines();
@@ -138,6 +139,24 @@ public final class SeatsTest {
         x.ask(3, 2, 0);
         due.is("as known today", x.settle(2), 1);
         due.is("the higher one then", x.asked(7, 3), 1);
+    }
+
+    private static void pools() {
+        MilesHall x = new MilesHall();
+        x.member(0, 0);
+        x.member(0, 0);
+        x.pool(0, 1);
+        x.pool(1, 1);
+        x.fly(0, 0, 70, 0, 0);
+        x.fly(1, 0, 70, 0, 0);
+        x.flight(5, 60, 1, 9);
+        x.ask(1, 0, 0);
+        x.ask(1, 0, 0);
+        x.ask(0, 0, 0);
+        due.is("two from a pool", x.settle(0), 2);
+        due.is("of the lesser member first", x.stands(0, 0, 0, 0), 0);
+        due.is("left", x.stands(1, 0, 0, 0), 20);
+        due.is("none is left for", x.asked(2, 3), 0);
     }
 
     private static void prices() {

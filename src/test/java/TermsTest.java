@@ -9,6 +9,7 @@ public final class TermsTest {
         counts();
         faults();
         nesting();
+        oneBehindAnother();
         notice();
         gives();
         names();
@@ -133,6 +134,26 @@ public final class TermsTest {
         told("earn " + times("(", 7) + "!(" + "1" + times(")", 8) + rest, 4);
     }
 
+    /** A text is read as if no other had been read ahead of it. */
+    private static void oneBehindAnother() {
+        MilesHall x = new MilesHall();
+        x.member(0, 0);
+        String open = "earn " + times("(", 8);
+        String long1 = "earn " + times("!", 8) + times("1+", 40);
+        String deep = "earn " + times("!(", 8) + "0" + times(")", 8) + "+4 lapse 9 price 1 tier 1";
+        x.keep();
+        for (int i = 0; i < 6; i++) {
+            due.is("open parentheses", Due.terms(x, open, 0), -100 - open.length());
+            due.is("open signs", Due.terms(x, "earn " + times("!", 8), 0), -113);
+            due.is("a long one", Due.terms(x, long1, 0), -100 - long1.length());
+            due.is("a number", Due.terms(x, "earn 1", 0), -106);
+            due.is("a deep one", Due.terms(x, deep, 0), 5);
+            x.fly(0, 0, 1, 0, 0);
+            due.is("what it gives", x.brought(0, 0, 0), 4);
+            x.again();
+        }
+    }
+
     private static void notice() {
         String text = "earn 1 lapse 1 price 1 tier 1";
         MilesHall x = new MilesHall();
@@ -179,6 +200,7 @@ public final class TermsTest {
         earns("2=3", 0);
         earns("3>2", 1);
         earns("2>3", 0);
+        earns("2>2", 0);
         earns("5&7", 1);
         earns("5&0", 0);
         earns("0|0", 0);
