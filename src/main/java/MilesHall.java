@@ -1399,7 +1399,7 @@ public final class MilesHall {
                 System.arraycopy(least, (offer + 1) * ROW, least, offer * ROW, most + 1);
                 int left = offers.times[offer];
                 // Packs of 1, 2, 4 and the rest make up every number of takings.
-                for (int pack = 1; left > 0; pack *= 2) {
+                for (int pack = 1; pack <= offers.times[offer]; pack *= 2) {
                     int many = Math.min(pack, left);
                     addPack(offer * ROW, most, many * offers.points[offer], many * weight(offers, offer));
                     left -= many;
