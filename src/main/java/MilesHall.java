@@ -365,14 +365,14 @@ public final class MilesHall {
         if (!within(n, 0, MOST_POINTS)) {
             return BAD;
         }
-        return ways.isFound(club.offers, n) ? ways.coins : NO;
+        return ways.isFound(club.offers, n) ? ways.coinsTo(n) : NO;
     }
 
     public int taken(int n, int offer) {
         if (!within(n, 0, MOST_POINTS) || !within(offer, 0, club.offers.size - 1)) {
             return BAD;
         }
-        return ways.isFound(club.offers, n) ? ways.rows[offer] : NO;
+        return ways.isFound(club.offers, n) ? ways.timesOf(n, offer) : NO;
     }
 
     public int tell(int v) {
@@ -395,7 +395,7 @@ public final class MilesHall {
         }
         int rows = club.offers.size;
         int right = 0;
-        for (int i = 0; i < told && i < rows && waiting[i] == ways.rows[i]; i++) {
+        for (int i = 0; i < told && i < rows && waiting[i] == ways.timesOf(n, i); i++) {
             right++;
         }
         return right == told && right == rows ? 0 : 1 + right;
@@ -1360,15 +1360,12 @@ public final class MilesHall {
 
     /** THE WAY to so many POINTS; what is worked out is kept while the OFFERS stay as they are. */
     private static final class Ways {
-        private static final int NO_WAY = 1000000000;
-        /** Coins weigh more than all takings (72) together, so that one number tells the better of two ways. */
-        private static final int COIN = 128;
-        private static final int ROW = MOST_POINTS + 1;
+        /** One number tells a whole WAY, the less the better: COINS, then takings, then what each OFFER has left of 9. */
+        private static final long COIN = 1L << 40, TAKING = 1L << 32, NONE_TAKEN = 0x99999999L, NO_WAY = 1L << 62;
+        private static final int DIGIT = 4, MOST_TIMES = 9;
 
-        /** A row an OFFER: the least weight of each number of POINTS with that OFFER and those behind it. */
-        final int[] least = new int[(MOST_OFFERS + 1) * ROW];
-        final int[] rows = new int[MOST_OFFERS];
-        int coins;
+        /** The best WAY to each number of POINTS. */
+        final long[] best = new long[MOST_POINTS + 1];
         private int solved = -1;
 
         void forget() {
@@ -1381,64 +1378,48 @@ public final class MilesHall {
                 solved = solved < 0 ? n : MOST_POINTS;
                 solve(offers, solved);
             }
-            if (least[n] == NO_WAY) {
-                return false;
-            }
-            coins = least[n] / COIN;
-            trace(offers, n);
-            return true;
+            return best[n] != NO_WAY;
+        }
+
+        int coinsTo(int n) {
+            return (int) (best[n] / COIN);
+        }
+
+        int timesOf(int n, int offer) {
+            return MOST_TIMES - (int) (best[n] >> placeOf(offer) & 15);
         }
 
         private void solve(Offers offers, int most) {
-            int last = offers.size * ROW;
-            least[last] = 0;
-            for (int points = 1; points <= most; points++) {
-                least[last + points] = NO_WAY;
-            }
-            for (int offer = offers.size - 1; offer >= 0; offer--) {
-                System.arraycopy(least, (offer + 1) * ROW, least, offer * ROW, most + 1);
+            Arrays.fill(best, NO_WAY);
+            best[0] = NONE_TAKEN;
+            for (int offer = 0; offer < offers.size; offer++) {
                 int left = offers.times[offer];
                 // Packs of 1, 2, 4 and the rest make up every number of takings.
                 for (int pack = 1; pack <= offers.times[offer]; pack *= 2) {
                     int many = Math.min(pack, left);
-                    addPack(offer * ROW, most, many * offers.points[offer], many * weight(offers, offer));
+                    addPack(most, many * offers.points[offer], many * weight(offers, offer));
                     left -= many;
                 }
             }
         }
 
         /** From the top down, so that a pack is taken once. */
-        private void addPack(int row, int most, int points, int weight) {
+        private void addPack(int most, int points, long weight) {
             for (int n = most; n > 0; n--) {
-                int with = least[row + (n > points ? n - points : 0)] + weight;
-                if (with < least[row + n]) {
-                    least[row + n] = with;
+                long with = best[n > points ? n - points : 0] + weight;
+                if (with < best[n]) {
+                    best[n] = with;
                 }
             }
         }
 
-        private static int weight(Offers offers, int offer) {
-            return offers.coins[offer] * COIN + 1;
+        private static long weight(Offers offers, int offer) {
+            return offers.coins[offer] * COIN + TAKING - (1L << placeOf(offer));
         }
 
-        /** Of ways that weigh the same the one that takes each OFFER in turn more often. */
-        private void trace(Offers offers, int n) {
-            int points = n;
-            for (int offer = 0; offer < offers.size; offer++) {
-                int best = least[offer * ROW + points];
-                int times = offers.times[offer];
-                while (times > 0 && with(offers, offer, times, points) != best) {
-                    times--;
-                }
-                rows[offer] = times;
-                points = Math.max(0, points - times * offers.points[offer]);
-            }
-        }
-
-        /** What it weighs to take an OFFER so often, and then the best of those behind it. */
-        private int with(Offers offers, int offer, int times, int points) {
-            int rest = Math.max(0, points - times * offers.points[offer]);
-            return least[(offer + 1) * ROW + rest] + times * weight(offers, offer);
+        /** OFFER 0 has the highest digit: to take it more often counts most. */
+        private static int placeOf(int offer) {
+            return DIGIT * (MOST_OFFERS - 1 - offer);
         }
     }
 }

@@ -40,6 +40,9 @@ final class EdgesOfImages {
             count 1 = 2 ; count 2 = 1 ; line 0 4 = NONE ; line 1 4 = 4 ; line 0 2 = 2 ; line 0 3 = 4 ; line 0 5 = 90 ; line 0 6 = 21 ; stands 0 4 4 0 = 90
             spend 0 1 50 0 ; spend 0 2 60 0 ; brought 2 4 4 = 0 ; brought 3 4 4 = 60
             """);
+        runs.edge("in the order in which they were gone through", """
+            member 0 0 ; days 4 ; fly 0 2 90 0 0 ; fly 0 3 10 0 0 ; keep ; fly 0 1 1 0 0 ; again ; stands 0 4 4 0 = 100 ; stands 0 2 4 0 = 90 ; spend 0 2 91 0 ; brought 2 4 4 = 0
+            """);
         runs.edge("COINS of its LINES", "member 0 0 ; tape 'earn c lapse 9 price 1 tier 0' ; terms 0 ; fly 0 0 1 0 77 ; keep ; again ; fly 0 0 1 0 5 ; again ; brought 0 0 0 = 77");
         runs.edge("its TERMS", """
             member 0 0 ; tape 'earn 11 lapse 99 price 1 tier 1' ; terms 0 ; fly 0 0 1 0 0 ; keep
@@ -50,7 +53,21 @@ final class EdgesOfImages {
             member 0 0 ; fly 0 0 90 0 0 ; flight 5 10 1 2 ; ask 0 0 3 ; ask 0 0 2 ; keep ; settle 0 = 2 ; flight 6 1 1 1 ; ask 0 1 1 ; again
             count 4 = 1 ; count 5 = 2 ; count 6 = 2 ; open 0 = 2 ; asked 0 3 = 0 ; asked 0 2 = 3 ; settle 0 = 2 ; asked 1 4 = 10 ; keep ; again ; asked 1 4 = 10 ; open 0 = 0 ; count 6 = 0
             """);
+        runs.edge("all that a LINE has", """
+            member 0 0 ; member 0 0 ; member 0 0 ; tape 'earn l*2+c lapse 99 price 1 tier 0' ; terms 0 ; days 9 ; fly 2 4 60 13 8 ; days 1 ; spend 2 5 70 3 ; gift 2 6 20 1 ; days 1 ; back 1 7 ; withdraw 2 ; keep ; again ; keep ; again
+            line 0 0 = 0 ; line 0 1 = 2 ; line 0 2 = 4 ; line 0 3 = 9 ; line 0 4 = NONE ; line 0 5 = 60 ; line 0 6 = 13 ; brought 0 11 11 = 128
+            line 1 0 = 1 ; line 1 1 = 2 ; line 1 2 = 5 ; line 1 3 = 10 ; line 1 4 = NONE ; line 1 5 = 70 ; line 1 6 = 3 ; brought 1 11 11 = 70
+            line 2 0 = 2 ; line 2 1 = 2 ; line 2 2 = 6 ; line 2 3 = 10 ; line 2 4 = 11 ; line 2 5 = 20 ; line 2 6 = 1 ; brought 2 11 10 = 20
+            line 3 0 = 3 ; line 3 1 = 2 ; line 3 2 = 7 ; line 3 3 = 11 ; line 3 4 = NONE ; line 3 5 = 70 ; line 3 6 = 1 ; brought 3 11 11 = 70
+            """);
+        runs.edge("all that a FLIGHT and an ASK have", """
+            member 0 0 ; member 0 0 ; member 0 0 ; tape 'earn 9999 lapse 99 price l*10+d tier 0' ; terms 0 ; fly 2 0 1 0 0 ; fly 1 0 1 0 0 ; flight 5 30 3 4 ; flight 6 20 2 7 ; flight 7 40 1 8
+            ask 2 1 3 ; ask 1 2 0 ; ask 0 0 1 ; settle 2 = 1 ; keep ; again ; keep ; again ; open 0 = 4 ; open 1 = 7 ; open 2 = 7
+            asked 0 0 = 2 ; asked 0 1 = 1 ; asked 0 2 = 3 ; asked 0 4 = NONE ; asked 1 0 = 1 ; asked 1 1 = 2 ; asked 1 2 = 0 ; asked 1 4 = 407 ; asked 2 0 = 0 ; asked 2 1 = 0 ; asked 2 2 = 1 ; asked 2 4 = NONE
+            settle 1 = 1 ; asked 0 4 = 206 ; line 2 6 = 1 ; line 3 6 = 2 ; open 1 = 6 ; days 4 ; settle 0 = 0 ; fly 0 4 1 0 0 ; settle 0 = 1 ; line 5 6 = 3 ; line 5 5 = 301 ; days 1 ; settle 0 = NO
+            """);
         runs.edge("its OFFERS", "offer 5 5 1 ; offer 4 9 2 ; way 5 = 4 ; keep ; clear ; offer 1 5 1 ; way 5 = 1 ; again ; count 7 = 2 ; way 5 = 4 ; way 23 = 13 ; way 24 = NO");
+        runs.edge("COINS, POINTS and TIMES of its OFFERS", "offer 5 7 2 ; keep ; clear ; offer 6 9 3 ; way 27 = 18 ; again ; way 14 = 10 ; way 7 = 5 ; way 8 = 10 ; way 15 = NO");
         runs.edge("RULES and RATES, each", """
             rule 0 1 ; rule 1 2 ; rule 2 3 ; rate 1 0 11 ; rate 1 1 12 ; rate 2 0 21 ; rate 2 1 22 ; rate 3 0 31 ; rate 3 1 32 ; keep
             rule 0 9 ; rule 1 9 ; rule 2 9 ; rate 1 0 9 ; rate 1 1 9 ; rate 2 0 9 ; rate 2 1 9 ; rate 3 0 9 ; rate 3 1 9 ; again

@@ -36,6 +36,7 @@ final class EdgesOfMembers {
             copy 0 0 0 0 0 = NOTHING ; copy 1 0 1 0 0 = NOTHING
             """);
         runs.edge("no numbers wait, nothing is on THE TAPE", "check 0 = 0 ; trim 1 = BAD ; trim 0 = 0 ; terms 0 = -100");
+        runs.edge("at most 512 calls: the last answers, too", "member 0 3 = 0 ; 509 x count 0 ; marks 0 4 = 3 ; marks 0 5 = 4");
         runs.edge("TODAY is 0 at first", "count 10 = 0 ; keep = 0 ; days 1 = 1");
         runs.edge("what no PARTNER has made it owes not", "owes 1 0 0 = 0 ; owes 2 0 0 = 0 ; owes 3 1200 1200 = 0");
     }

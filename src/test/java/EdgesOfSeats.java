@@ -136,6 +136,10 @@ final class EdgesOfSeats {
             line 1 0 = 1 ; line 1 1 = 1 ; line 1 2 = 3 ; line 1 3 = 3 ; line 1 4 = NONE ; line 1 5 = 500 ; line 1 6 = 2 ; brought 1 3 3 = 500
             owes 2 3 3 = -4 ; owes 2 2 3 = 0 ; owes 2 3 2 = 0 ; back 1 3 = 2 ; owes 2 3 3 = 0
             """);
+        runs.edge("at the FLIGHT's PARTNER, of several FLIGHTS and ASKS", """
+            member 0 0 ; fly 0 0 999 0 0 ; flight 5 10 1 1 ; ask 0 0 0 ; ask 0 0 0 ; flight 5 20 2 1 ; ask 0 1 0 ; flight 5 30 3 1 ; ask 0 2 0 ; settle 2 = 1 ; settle 1 = 1 ; settle 0 = 1
+            line 1 6 = 3 ; line 1 5 = 30 ; line 2 6 = 2 ; line 2 5 = 20 ; line 3 6 = 1 ; line 3 5 = 10
+            """);
         runs.edge("it pays from its POOL", """
             member 0 0 ; member 0 0 ; member 0 0 ; pool 0 1 ; pool 1 1 ; fly 0 0 60 0 0 ; fly 1 0 60 0 0 ; fly 2 0 60 0 0 ; flight 5 100 0 9 ; ask 1 0 0 ; ask 1 0 0 ; ask 2 0 0
             settle 0 = 1 ; asked 0 3 = 1 ; stands 0 0 0 0 = 0 ; stands 1 0 0 0 = 20 ; stands 2 0 0 0 = 60

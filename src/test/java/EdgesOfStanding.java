@@ -193,6 +193,10 @@ final class EdgesOfStanding {
             member 0 0 ; member 0 0 ; member 0 0 ; pool 0 0 ; pool 1 0 ; fly 0 0 50 0 0 ; fly 1 0 50 0 0 ; gift 0 0 51 2 ; gift 0 0 50 2
             brought 2 0 0 = 0 ; brought 3 0 0 = 50 ; stands 0 0 0 0 = 0 ; stands 1 0 0 0 = 50 ; stands 2 0 0 0 = 50
             """);
+        runs.edge("GIFT: from LOTS of the MEMBER alone, not from those of its POOL that LAPSE first", """
+            member 0 0 ; member 0 0 ; member 0 0 ; pool 0 0 ; pool 1 0 ; pool 2 0 ; fly 0 0 50 0 0 ; days 1 ; fly 1 1 50 0 0 ; gift 1 1 40 2
+            stands 0 1 1 0 = 50 ; stands 1 1 1 0 = 10 ; stands 2 720 1 0 = 40 ; stands 2 721 1 0 = 0
+            """);
         runs.edge("GIFT: If there are fewer it brings nothing", """
             member 0 0 ; member 0 0 ; fly 0 0 50 0 0 ; gift 0 0 51 1 ; brought 1 0 0 = 0 ; stands 0 0 0 0 = 50 ; stands 1 0 0 0 = 0
             gift 0 0 49 1 ; brought 2 0 0 = 49 ; stands 0 0 0 0 = 1 ; gift 0 0 1 1 ; brought 3 0 0 = 1 ; gift 0 0 1 1 ; brought 4 0 0 = 0 ; stands 1 0 0 0 = 50
@@ -244,6 +248,7 @@ final class EdgesOfStanding {
             days 5 ; back 1 5 ; back 1 3 ; brought 2 5 5 = 0 ; brought 3 5 5 = 1000 ; withdraw 3 ; brought 2 5 5 = 1000
             """);
         runs.edge("if its SPEND brought something", "member 0 0 ; spend 0 0 5 1 ; back 0 0 ; brought 1 0 0 = 0 ; stands 0 0 0 0 = 0 ; owes 1 0 0 = 0");
+        runs.edge("if its SPEND brought something: 1 is something", "member 0 0 ; fly 0 0 1 0 0 ; spend 0 0 1 1 ; back 1 0 ; brought 2 0 0 = 1 ; stands 0 0 0 0 = 1");
         runs.edge("a BACK that brought nothing does not keep a later one from it", """
             member 0 0 ; fly 0 0 9 0 0 ; spend 0 0 9 1 ; back 1 0 ; days 1 ; withdraw 2 ; back 1 1 ; brought 3 1 1 = 9 ; brought 2 1 0 = 9
             """);

@@ -30,6 +30,7 @@ final class EdgesOfTerms {
         tests();
         loosestFirst();
         inForce();
+        oneBehindAnother();
     }
 
     private void told(String sentence, String text, int want) {
@@ -154,6 +155,12 @@ final class EdgesOfTerms {
         told("more behind the last E", PLAIN + ")", -129);
         told("more behind the last E", PLAIN + "!", -129);
         told("more behind the last E", PLAIN + "(", -129);
+        for (String word : new String[] {"earn", "lapse", "price", "tier"}) {
+            for (int i = 0; i < word.length(); i++) {
+                String wrong = word.substring(0, i) + "z" + word.substring(i + 1);
+                told("no other word", PLAIN.replace(word, wrong), -100 - PLAIN.indexOf(word));
+            }
+        }
         told("a sign ahead of all", "(earn 1", -100);
         told("a sign ahead of all", "+", -100);
     }
@@ -213,6 +220,9 @@ final class EdgesOfTerms {
         earns("f CLASS", "f", 2);
         earns("p PARTNER", "p", 3);
         earns("c COINS", "c", 5);
+        for (int how : new int[] {0, 1, 3, 10, 13, 20, 23, 30, 33}) {
+            runs.edge("f CLASS, p PARTNER of " + how, "member 0 0 ; tape 'earn f*100+p+1" + REST + "' ; terms 0 ; fly 0 0 7 " + how + " 0 ; brought 0 0 0 = " + (how / 10 * 100 + how % 10 + 1));
+        }
         for (int kind = 0; kind < 4; kind++) {
             runs.edge("t TIER, k KIND of the MEMBER, " + kind, "member " + kind + " 0 ; tape 'earn 10*k+t lapse 10*k+t+5 price 1 tier 2' ; terms 0 ; fly 0 0 1 0 0 ; brought 0 0 0 = " + (10 * kind + 2)
                 + (kind == 1 ? "\nstands 0 1200 0 0 = 12" : "\nstands 0 " + (10 * kind + 6) + " 0 4 = 0 ; stands 0 " + (10 * kind + 7) + " 0 4 = " + (10 * kind + 2)));
@@ -391,10 +401,26 @@ final class EdgesOfTerms {
             + "brought 0 9 9 = 7 ; brought 1 9 9 = 11 ; brought 2 9 9 = 11 ; brought 3 9 9 = 22");
         runs.edge("of several those told last", flown + a + "3\n" + b + "3 ; days 3 ; fly 0 3 7 0 0 ; brought 0 3 3 = 22\n" + a + "3 ; brought 0 3 3 = 11");
         runs.edge("from DAY 0 on, of several those told last", flown + a + "0\n" + b + "0 ; fly 0 0 7 0 0 ; brought 0 0 0 = 22\n" + a + "0 ; brought 0 0 0 = 11");
+        runs.edge("all 4 of them", flown + a + "1\n" + b + "2\n" + a + "3\n" + b + "3 ; days 4 ; fly 0 0 7 0 0 ; fly 0 1 7 0 0 ; fly 0 2 7 0 0 ; fly 0 3 7 0 0 ; fly 0 4 7 0 0\n"
+            + "brought 0 4 4 = 7 ; brought 1 4 4 = 11 ; brought 2 4 4 = 22 ; brought 3 4 4 = 22 ; brought 4 4 4 = 22 ; stands 0 1200 4 2 = 0");
         runs.edge("in force on the last DAY", flown + a + "1200 ; 12 x days 100 ; fly 0 1199 7 0 0 ; fly 0 1200 7 0 0 ; brought 0 1200 1200 = 7 ; brought 1 1200 1200 = 11");
         runs.edge("for a LINE by its own DAY, not by the one that is asked for", flown + a + "5 ; days 9 ; fly 0 4 7 0 0 ; brought 0 4 9 = 7 ; brought 0 1200 9 = 7");
         runs.edge("Without any: LEG, 720, LEG, 0", "member 0 0 ; fly 0 0 1 33 9999 ; fly 0 0 9999 0 0 ; brought 0 0 0 = 1 ; brought 1 0 0 = 9999 ; stands 0 719 0 0 = 10000 ; stands 0 720 0 0 = 0 ; stands 0 0 0 2 = 0\n"
             + "flight 9 77 0 1 ; ask 0 0 3 ; settle 0 = 1 ; asked 0 4 = 77");
         runs.edge("a TEXT that was refused is not in force", "member 0 0 ; tape 'earn 5 lapse 1 price 1 tier' ; terms 0 = -127 ; fly 0 0 7 0 0 ; brought 0 0 0 = 7");
+    }
+
+    /** A TEXT is read as if none had been read ahead of it. */
+    private void oneBehindAnother() {
+        String plain = "tape '" + PLAIN + "' ; terms 0 = 4";
+        for (String broken : new String[] {"earn 1 1", "earn 1 x", "earn", "earn (", "earn !", "earn 1+", "earn 1 lapse 1 price 1 tier 1 1", "1", "x", "?", ""}) {
+            int fault = broken.isEmpty() ? 0 : broken.endsWith("1") || broken.endsWith("x") || broken.equals("?") ? broken.length() - 1 : broken.length();
+            runs.edge("behind '" + broken + "'", "tape '" + broken + "' ; terms 0 = " + (-100 - fault) + "\n" + plain);
+        }
+        runs.edge("behind TERMS that end in a word", "tape 'earn 1 lapse 1 price 1 tier q' ; terms 0 = 4\n" + plain);
+        String much = "earn " + "1+".repeat(60);
+        String broken = "tape '" + much + "' ; terms 0 = " + (-100 - much.length()) + "\n";
+        runs.edge("behind very many NUMBERS", "member 0 0\n" + broken.repeat(4) + "tape 'earn 12+l lapse 3 price l*2 tier 2' ; terms 0 = 6\n"
+            + "fly 0 0 7 0 0 ; brought 0 0 0 = 19 ; stands 0 2 0 0 = 19 ; stands 0 3 0 0 = 0 ; stands 0 0 0 2 = 2 ; flight 9 5 0 1 ; ask 0 0 0 ; settle 0 = 1 ; asked 0 4 = 10");
     }
 }

@@ -15,7 +15,7 @@ public final class RoomTest {
         long made = bean.getThreadAllocatedBytes(id) - before;
         due.is("the run went through", x.count(1), 40);
         System.out.println("RoomTest: " + made + " bytes");
-        due.is("less than two megabytes, the test's own texts too", made < 2000000 ? 1 : 0, 1);
+        due.is("less than 400,000 bytes, the test's own texts too", made < 400000 ? 1 : 0, 1);
         due.end();
     }
 
