@@ -1,4 +1,4 @@
-/** Every argument of every call: the least that is right, the most, one below, one above, and the farthest ints. */
+/** Every argument of every call at, below and above its edges, and every other refusal, where there is much to be changed. */
 final class EdgesOfArguments {
     /** TODAY 15; 4 MEMBERS; LINES 0 .. 6, SPENDS are 2, 5 and 6, 3 is WITHDRAWN; 2 FLIGHTS, 3 ASKS, 2 OFFERS, an image. */
     private static final String SCENE = """
@@ -31,6 +31,9 @@ final class EdgesOfArguments {
         standing();
         tapeAndSeats();
         waysAndSheets();
+        full();
+        notNow();
+        missing();
     }
 
     private void scene() {
@@ -147,5 +150,55 @@ final class EdgesOfArguments {
         arg(38, "copy 1 0 0 0 1", 4, 0, 5, INDEX);
         arg(38, "copy 1 0 1 0 1", 4, 0, 16, INDEX);
         arg(39, "count 0", 0, 0, 10, BAD);
+    }
+
+    private void refused(int promise, String sentence, String run) {
+        runs.promise(promise);
+        runs.edge(sentence + ", among much else", run);
+    }
+
+    private void full() {
+        refused(2, "FULL", SCENE + "6 x member 0 0 = 4.. ; member 0 0 = FULL");
+        String lines = SCENE + "93 x fly 0 0 1 0 0 = 7.. ;";
+        refused(9, "FULL", lines + "fly 0 0 1 0 0 = FULL");
+        refused(10, "FULL", lines + "spend 0 0 1 0 = FULL");
+        refused(11, "FULL", lines + "gift 0 0 1 1 = FULL");
+        refused(12, "FULL", lines + "back 2 15 = FULL");
+        refused(19, "FULL", SCENE + "8 x feed 0 0 0 ; count 9 = 125 ; feed 0 0 0 = FULL");
+        String terms = SCENE + "tape 'earn 1 lapse 2 price 3 tier 1' ; terms 100 ;".repeat(3);
+        refused(21, "FULL", terms + "tape 'earn 1 lapse 2 price 3 tier 2' ; terms 100 = FULL");
+        refused(22, "FULL", SCENE + "6 x flight 20 1 0 0 ; flight 20 1 0 0 = FULL");
+        refused(23, "FULL", SCENE + "27 x ask 0 1 0 ; ask 0 1 0 = FULL");
+        refused(27, "FULL", SCENE + "6 x offer 1 1 1 ; offer 1 1 1 = FULL");
+        refused(31, "FULL", SCENE + "14 x tell 5 ; tell 5 = FULL");
+    }
+
+    private void notNow() {
+        refused(7, "BAD: also if it would be above 1200", SCENE + "11 x days 100 ; days 84 = 1199 ; days 2 = BAD");
+        refused(11, "BAD: also to oneself", SCENE + "gift 1 0 1 1 = BAD");
+        refused(12, "BAD: no SPEND", SCENE + "back 0 15 = BAD ; back 3 15 = BAD ; back 4 15 = BAD");
+        refused(13, "NO: it is", SCENE + "withdraw 3 = NO");
+        refused(16, "NO: it is not KNOWN then, or about a later DAY", SCENE + "brought 5 9 15 = NO ; brought 5 15 9 = NO ; brought 3 15 15 = NO");
+        refused(21, "BAD", SCENE + "terms -1 = BAD");
+        refused(21, "BAD", SCENE + "terms 1201 = BAD");
+        refused(21, "NO: too soon", SCENE + "terms 44 = NO");
+        refused(21, "a fault", SCENE + "trim 28 ; terms 45 = -128");
+        refused(23, "NO: the FLIGHT's DAY is not behind TODAY", SCENE + "days 5 ; ask 0 0 0 = NO");
+        refused(24, "NO: its DAY is not behind TODAY", SCENE + "days 5 ; settle 0 = NO");
+        String fewer = SCENE.replace("offer 100 999 9", "offer 100 99 9");
+        refused(29, "NO: there is none", fewer + "way 912 = 930 ; way 913 = NO");
+        refused(30, "NO", fewer + "taken 913 0 = NO");
+        refused(32, "NO", fewer + "check 913 = NO");
+        refused(33, "BAD: i below 0", SCENE + "ring -1 = BAD");
+        refused(35, "NO: there is none", SCENE.replace("keep ;", "") + "again = NO");
+    }
+
+    private void missing() {
+        String one = SCENE.replace("sheet 1 16", "");
+        refused(6, "NOTHING", one + "lay 1 = NOTHING");
+        refused(36, "BAD", SCENE + "sheet 2 5 = BAD ; sheet -1 5 = BAD ; sheet 0 17 = BAD ; sheet 1 17 = BAD");
+        refused(36, "SIZE", SCENE + "sheet 0 -1 = SIZE ; sheet 1 MIN = SIZE");
+        refused(37, "NOTHING", one + "mark 1 0 5 = NOTHING");
+        refused(38, "NOTHING", one + "copy 0 1 1 0 1 = NOTHING ; copy 1 0 0 0 1 = NOTHING ; copy 1 0 1 0 0 = NOTHING");
     }
 }

@@ -184,6 +184,10 @@ final class EdgesOfSeats {
         for (int kind = 0; kind < 4; kind++) {
             runs.edge("t TIER, k KIND, " + kind, "member " + kind + " 0\n" + terms("200", "k*10+t", "q/100") + "fly 0 0 1 0 0 ; flight 5 1 0 9 ; ask 0 0 0 ; settle 0 = 1 ; asked 0 4 = " + (kind * 10 + 2));
         }
+        runs.edge("t and k are the asking MEMBER's", "member 3 0 ; member 0 0 ; member 2 0 ; member 1 0\n" + terms("l", "k*10+t+1", "q/100") + """
+            fly 0 0 99 0 0 ; fly 1 0 200 0 0 ; fly 2 0 100 0 0 ; fly 3 0 300 0 0 ; flight 5 1 0 0 ; flight 5 1 0 9 ; ask 2 1 1 ; ask 3 1 0 ; ask 0 1 2 ; ask 1 1 3 ; settle 1 = 4
+            asked 0 4 = 22 ; asked 1 4 = 14 ; asked 2 4 = 32 ; asked 3 4 = 3
+            """);
         runs.edge("TERMS in force TODAY", """
             member 0 0 ; rule 0 0 ; fly 0 0 999 0 0 ; tape 'earn l lapse 9999 price 7 tier 0' ; terms 3 ; flight 9 50 0 9 ; ask 0 0 0 ; days 2 ; settle 0 = 1 ; asked 0 4 = 50
             ask 0 0 0 ; days 1 ; settle 0 = 1 ; asked 1 4 = 7 ; tape 'earn l lapse 9999 price 8 tier 0' ; terms 5 ; ask 0 0 0 ; days 1 ; settle 0 = 1 ; asked 2 4 = 7

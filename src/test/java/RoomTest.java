@@ -1,12 +1,22 @@
 import com.sun.management.ThreadMXBean;
 import java.lang.management.ManagementFactory;
+import java.lang.reflect.Array;
+import java.lang.reflect.Field;
+import java.lang.reflect.Modifier;
+import java.util.IdentityHashMap;
+import java.util.Map;
 
 /** All calls of a run live in one room: what a run makes stays far below 7.3 million fields and elements. */
 public final class RoomTest {
     private static final String TEXT = "earn l+t*100 lapse 10 price l*2 tier q/500";
     private static final Due due = new Due("RoomTest");
 
-    public static void main(String[] args) {
+    public static void main(String[] args) throws IllegalAccessException {
+        Map<Object, Boolean> seen = new IdentityHashMap<>();
+        long held = held(new MilesHall(), seen);
+        System.out.println("RoomTest: a new object holds " + seen.size() + " objects and arrays, " + held + " fields and elements");
+        due.is("few objects and arrays", seen.size() < 200 ? 1 : 0, 1);
+        due.is("few fields and elements", held < 10000 ? 1 : 0, 1);
         ThreadMXBean bean = (ThreadMXBean) ManagementFactory.getThreadMXBean();
         long id = Thread.currentThread().getId();
         run();
@@ -17,6 +27,29 @@ public final class RoomTest {
         System.out.println("RoomTest: " + made + " bytes");
         due.is("less than 400,000 bytes, the test's own texts too", made < 400000 ? 1 : 0, 1);
         due.end();
+    }
+
+    /** Fields and elements of an object and of all that it holds. */
+    private static long held(Object one, Map<Object, Boolean> seen) throws IllegalAccessException {
+        if (one == null || one instanceof String || seen.put(one, true) != null) {
+            return 0;
+        }
+        long held = 0;
+        if (one.getClass().isArray()) {
+            held += Array.getLength(one);
+            for (int i = 0; !one.getClass().getComponentType().isPrimitive() && i < Array.getLength(one); i++) {
+                held += held(Array.get(one, i), seen);
+            }
+            return held;
+        }
+        for (Field f : one.getClass().getDeclaredFields()) {
+            if (!Modifier.isStatic(f.getModifiers())) {
+                held++;
+                f.setAccessible(true);
+                held += f.getType().isPrimitive() ? 0 : held(f.get(one), seen);
+            }
+        }
+        return held;
     }
 
     /** Far more than 512 calls, of the dearest ones. */
