@@ -90,6 +90,10 @@ final class EdgesOfImages {
         runs.edge("SIZE: a number of places is below 0", "sheet 0 -1 = SIZE ; sheet 0 MIN = SIZE ; mark 0 0 0 = NOTHING ; sheet 0 0 = 0 ; mark 0 0 0 = INDEX ; sheet 0 1 = 1 ; sheet 0 -1 = SIZE ; mark 0 0 0 = 0");
         runs.edge("of several the one that stands first: BAD, then SIZE", "sheet 2 -1 = BAD ; sheet -1 -1 = BAD ; sheet -1 17 = BAD ; sheet 1 -1 = SIZE");
         runs.edge("A SHEET has n places, all 0", "sheet 0 16 = 16 ; mark 0 0 5 ; mark 0 7 5 ; mark 0 15 5 ; sheet 0 8 = 8 ; mark 0 0 0 = 0 ; mark 0 7 0 = 0 ; mark 0 8 0 = INDEX ; sheet 0 16 = 16 ; mark 0 15 0 = 0");
+        runs.edge("all 0, of the second one, and the first stays as it is", """
+            sheet 0 16 ; sheet 1 16 ; mark 0 0 1 ; mark 0 8 2 ; mark 0 9 3 ; mark 0 10 4 ; mark 0 15 5 ; mark 1 0 6 ; mark 1 7 7 ; mark 1 8 8 ; mark 1 15 9 ; sheet 1 16 = 16
+            mark 0 0 0 = 1 ; mark 0 8 0 = 2 ; mark 0 9 0 = 3 ; mark 0 10 0 = 4 ; mark 0 15 0 = 5 ; mark 1 0 0 = 0 ; mark 1 7 0 = 0 ; mark 1 8 0 = 0 ; mark 1 15 0 = 0
+            """);
         runs.edge("the other one stays as it is", "sheet 0 3 ; mark 0 2 9 ; sheet 1 16 ; mark 0 2 0 = 9 ; sheet 1 0 ; mark 0 2 1 = 0 ; mark 1 0 0 = INDEX");
         runs.edge("0 places are not MISSING", "sheet 0 0 = 0 ; lay 0 = 0 ; lay 1 = NOTHING ; mark 0 0 0 = INDEX ; copy 0 0 0 0 0 = 0 ; copy 0 0 0 0 1 = INDEX");
     }

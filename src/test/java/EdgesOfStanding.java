@@ -261,6 +261,9 @@ final class EdgesOfStanding {
         runs.edge("to that MEMBER, of several", """
             member 0 0 ; member 0 0 ; member 0 0 ; fly 2 0 70 0 9 ; spend 2 0 70 1 ; fly 1 0 5 0 0 ; back 1 0 ; stands 0 0 0 0 = 0 ; stands 1 0 0 0 = 5 ; stands 2 0 0 0 = 70
             """);
+        runs.edge("of the last LINES", """
+            member 0 0 ; 97 x fly 0 0 1 0 0 ; spend 0 0 40 1 = 97 ; back 97 0 = 98 ; back 97 0 = 99 ; brought 97 0 0 = 40 ; brought 98 0 0 = 40 ; brought 99 0 0 = 0 ; stands 0 0 0 0 = 97
+            """);
         runs.edge("GRACE of a CHILD is GRACE", "member 1 0 ; fly 0 0 70 0 0 ; spend 0 0 70 1 ; back 1 0 ; stands 0 89 0 0 = 70 ; stands 0 90 0 0 = 0");
         runs.edge("what came BACK is no POINTS, and may be SPENT again", """
             member 0 0 ; fly 0 0 70 0 0 ; spend 0 0 70 1 ; back 1 0 ; stands 0 0 0 1 = 70 ; spend 0 0 70 2 ; brought 3 0 0 = 70 ; back 3 0 ; stands 0 0 0 0 = 70

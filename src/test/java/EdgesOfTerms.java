@@ -391,6 +391,10 @@ final class EdgesOfTerms {
         earns("as long as THE TAPE lets it be, from the left", "99-" + "1-".repeat(49) + "9", 41);
         runs.edge("the last E behind long ones", "member 0 0 ; tape 'earn " + "1+".repeat(20) + "1 lapse " + "1+".repeat(15) + "5 price " + "1+".repeat(10) + "7 tier 5-3' ; terms 0 = 50\n"
             + "fly 0 0 1 0 0 ; brought 0 0 0 = 21 ; stands 0 19 0 0 = 21 ; stands 0 20 0 0 = 0 ; stands 0 0 0 2 = 2 ; flight 5 1 0 1 ; ask 0 0 0 ; settle 0 = 1 ; asked 0 4 = 17");
+        for (int inmost = 0; inmost <= 1; inmost++) {
+            earns("very much is still to be worked out", "0|1&5<4+2*(".repeat(7) + inmost + ")".repeat(7), inmost);
+        }
+        earns("very much is still to be worked out", "3+2*(".repeat(8) + "l" + ")".repeat(8), 3 * 255 + 256 * 7);
         earns("8 deep", "1+(1+(1+(1+(1+(1+(1+(1+(1))))))))", 9);
     }
 
