@@ -711,11 +711,11 @@ public final class MilesHall {
         }
 
         int begin(int part) {
-            return within(part, 1, ends.length) ? ends[part - 1] : 0;
+            return part > 0 && part <= ends.length ? ends[part - 1] : 0;
         }
 
         int end(int part) {
-            return within(part, 0, ends.length - 1) ? Math.min(ends[part], code.length) : 0;
+            return part >= 0 && part < ends.length ? Math.min(ends[part], code.length) : 0;
         }
     }
 
@@ -1240,10 +1240,11 @@ public final class MilesHall {
             if (place >= text) {
                 return END;
             }
-            if (within(bytes[place], 'a', 'z')) {
+            int one = bytes[place];
+            if (one >= 'a' && one <= 'z') {
                 return LETTERS;
             }
-            return within(bytes[place], '0', '9') ? DIGITS : SIGN;
+            return one >= '0' && one <= '9' ? DIGITS : SIGN;
         }
 
         private char letter() {
